@@ -889,9 +889,10 @@ public final class TwoMayors {
         }
 
         private int mostBehind(Borough borough, int w, int more) {
+            int nexts = borough.behindOf(w);
             int most = NOT_SAFE;
             for (int next = 0; next < borough.words; next++) {
-                if ((borough.behindOf(w) & bit(next)) != 0) {
+                if ((nexts & bit(next)) != 0) {
                     most = Math.max(most, tableAt(more, next));
                 }
             }
@@ -911,9 +912,10 @@ public final class TwoMayors {
         }
 
         private int sumBehind(Borough borough, int w, int more) {
+            int nexts = borough.behindOf(w);
             int sum = 0;
             for (int next = 0; next < borough.words; next++) {
-                if ((borough.behindOf(w) & bit(next)) != 0) {
+                if ((nexts & bit(next)) != 0) {
                     sum += tableAt(more, next);
                 }
             }

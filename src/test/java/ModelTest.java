@@ -5,7 +5,7 @@ import java.util.Random;
 /** Long runs of drawn calls, each answer beside that of the model. */
 public final class ModelTest {
     private static final int RUNS = 240;
-    private static final int CALLS = 320;
+    private static final int CALLS = 400;
 
     private final Random random;
     private final String name;
@@ -40,6 +40,10 @@ public final class ModelTest {
                 ask();
             } else {
                 act();
+            }
+            if (random.nextInt(4) == 0) {
+                int k = oneOf(-1, 3);
+                due("finishing(" + k + ")", mayors.finishing(k), model.finishing(k));
             }
             if (random.nextInt(120) == 0) {
                 writeAnew();
@@ -109,11 +113,18 @@ public final class ModelTest {
 
     private int word() {
         int n = model.count(0);
+        if (random.nextInt(60) == 0) {
+            return extreme();
+        }
         return random.nextInt(12) == 0 ? random.nextInt(n + 4) - 2 : random.nextInt(n);
     }
 
+    private int extreme() {
+        return random.nextBoolean() ? Integer.MIN_VALUE + random.nextInt(3) : Integer.MAX_VALUE - random.nextInt(3);
+    }
+
     private int oneOf(int least, int most) {
-        return least - 1 + random.nextInt(most - least + 3);
+        return random.nextInt(40) == 0 ? extreme() : least - 1 + random.nextInt(most - least + 3);
     }
 
     private void act() {
@@ -137,7 +148,7 @@ public final class ModelTest {
         int n = oneOf(1, 10);
         int what = oneOf(0, 3);
         switch (random.nextInt(16)) {
-            case 0: due("finishing(" + what + ")", mayors.finishing(what - 1), model.finishing(what - 1)); break;
+            case 0: due("finishing(" + what + ")", mayors.finishing(what), model.finishing(what)); break;
             case 1: due("safe(" + w + ", " + k + ")", mayors.safe(w, k), model.safe(w, k)); break;
             case 2: due("best(" + n + ", " + k + ")", mayors.best(n, k), model.best(n, k)); break;
             case 3: due("lure(" + w + ", " + k + ")", mayors.lure(w, k), model.lure(w, k)); break;
@@ -151,6 +162,7 @@ public final class ModelTest {
             case 11: due("word(" + w + ", " + what + ")", mayors.word(w, what), model.word(w, what)); break;
             case 12: due("mayor(" + w + ", " + what + ")", mayors.mayor(w, what), model.mayor(w, what)); break;
             case 13: due("said(" + k + ")", mayors.said(k), model.said(k)); break;
+            case 14: due("fault()", mayors.fault(), model.fault()); break;
             default: due("count(" + k + ")", mayors.count(k), model.count(k)); break;
         }
     }
@@ -166,6 +178,9 @@ public final class ModelTest {
                 due("lure(" + w + ", " + k + ")", mayors.lure(w, k), model.lure(w, k));
             }
             due("sitting(" + w + ")", mayors.sitting(w), model.sitting(w));
+        }
+        for (int k = -1; k < 4; k++) {
+            due("finishing(" + k + ")", mayors.finishing(k), model.finishing(k));
         }
         for (int k = -2; k < 10; k++) {
             due("best(10, " + k + ")", mayors.best(10, k), model.best(10, k));

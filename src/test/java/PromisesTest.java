@@ -224,6 +224,14 @@ public final class PromisesTest {
         put(x, "w0,0;");
         x.lay();
         counts(x, 1, 0, 0, 0, 0, 2);
+        put(x, "c1;");
+        x.lay();
+        x.wipe();
+        put(x, "w0,0;");
+        for (int i = 0; i < 3; i++) {
+            x.lay();
+            due("mayor(0, 0) without c", x.mayor(0, 0), 1);
+        }
         due("lay() of 200 letters", laid(TEN_WORDS.concat("g0,1;".repeat(30))).count(0), 10);
     }
 
@@ -524,6 +532,8 @@ public final class PromisesTest {
             .concat("g0,1;g1,2;g2,3;g3,4;g4,5;g5,6;g6,7;g7,8;g8,9;g8,0;l1;"));
         noRow("safe of a proverb, 11 words", safeOf(long11, 0));
         row("the first of several", safeOf(laid("w0,0;w0,0;w2,0;w2,0;w0,0;g4,1;g4,0;g0,3;g1,2;"), 4), 4, 0, 3);
+        row("none of the words ahead is let go", safeOf(laid("w0,0;w0,0;w0,0;w2,0;w3,0;w2,0;"
+            .concat("g2,1;g1,3;g2,4;g4,3;g0,5;g0,4;l1;k1,5;")), 4), 2, 4, 3);
         row("by the mayor with the chain", safeOf(laid("w0,0;w2,0;g0,1;k1,1;c1;"), 0), 0, 1);
         noRow("not by the other", safeOf(laid("w0,0;w2,0;g0,1;k1,1;c0;"), 0));
     }
@@ -730,6 +740,9 @@ public final class PromisesTest {
         TwoMayors two = laid(way);
         two.seen(0, 1);
         dueGuess(two, 2, 6, 7);
+        two.forget();
+        two.seen(0, 0);
+        dueGuess(two, 6, 0, 7);
         two.wipe();
         put(two, way.concat("l1;"));
         two.lay();
@@ -766,11 +779,24 @@ public final class PromisesTest {
         due("said(0) then", x.said(0), 0);
         counts(x, 7, 2, 1, 1, 0, 2, 0, 3);
 
+        councilsBesideModel("");
+        councilsBesideModel("w2,9;g0,0;", 0, 0, 0, 0, 0, 0, 0, 0, 0, 0, 0, 0);
+        councilsBesideModel("w3,1;w2,9;w1,3;g0,0;g0,1;g1,2;g2,0;k0,1;k1,2;k1,0;c1;", 0, 0);
+    }
+
+    private static void councilsBesideModel(String text, int... words) {
         Model model = new Model();
-        TwoMayors y = new TwoMayors();
+        TwoMayors x = written(text);
+        for (int i = 0; i < text.length(); i++) {
+            model.write(text.charAt(i));
+        }
+        due("lay()", x.lay(), model.lay());
+        for (int w : words) {
+            due("say(" + w + ")", x.say(w), model.say(w));
+        }
         for (int z : new int[] {0, 1, 77, 5000, 9998, 9999}) {
             for (int n : new int[] {1, 2, 12, 13, 59, 60}) {
-                dueCouncil(y, z, n, model.council(z, n, 0), model.council(z, n, 1), model.council(z, n, 2));
+                dueCouncil(x, z, n, model.council(z, n, 0), model.council(z, n, 1), model.council(z, n, 2));
             }
         }
     }
