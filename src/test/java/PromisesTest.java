@@ -1,4 +1,4 @@
-/** Promise by promise: ordinary inputs, edges and wrong inputs, with answers found by hand from the document. */
+/** Promise by promise: ordinary inputs, edges and wrong inputs, with answers found by hand (long councils: by the model). */
 public final class PromisesTest {
     private static final int BAD = -1, NO = -2, FULL = -3, NONE = -4;
     private static final String TEN_WORDS = "w0,0;w0,1;w0,2;w0,3;w0,4;w0,5;w0,6;w0,7;w0,8;w0,9;";
