@@ -4,18 +4,25 @@ import java.util.Random;
 
 /** Long runs of drawn calls, each answer beside that of the model. */
 public final class ModelTest {
-    private static final int RUNS = 240;
-    private static final int CALLS = 400;
+    private static final int RUNS = 400;
+    /** What an object answers beyond these is free. */
+    private static final int MOST_CALLS = 512;
+    private static final int CALLS = 508;
+    /** Every second run leaves room for asking all that can be asked. */
+    private static final int CALLS_AHEAD_OF_ALL = 230;
+    private static final int CALLS_OF_WRITING = 215;
 
     private final Random random;
     private final String name;
     private final TwoMayors mayors = new TwoMayors();
     private final Model model = new Model();
+    private final boolean asksAll;
     private int calls = 0;
 
     private ModelTest(int seed) {
         random = new Random(seed);
         name = "run " + seed;
+        asksAll = seed % 2 == 0;
     }
 
     public static void main(String[] args) {
@@ -35,7 +42,8 @@ public final class ModelTest {
             write(drawnText());
             layAndCount();
         }
-        while (calls < CALLS) {
+        int most = asksAll ? CALLS_AHEAD_OF_ALL : CALLS;
+        while (calls < most) {
             if (random.nextInt(3) == 0) {
                 ask();
             } else {
@@ -45,11 +53,16 @@ public final class ModelTest {
                 int k = oneOf(-1, 3);
                 due("finishing(" + k + ")", mayors.finishing(k), model.finishing(k));
             }
-            if (random.nextInt(120) == 0) {
+            if (random.nextInt(120) == 0 && calls + CALLS_OF_WRITING <= most) {
                 writeAnew();
             }
         }
-        askAll();
+        if (asksAll) {
+            askAll();
+        }
+        if (calls > MOST_CALLS) {
+            throw new IllegalStateException("a run of too many calls: " + calls);
+        }
     }
 
     private void write(String text) {

@@ -19,6 +19,10 @@ final class Check {
         return wrong;
     }
 
+    static int soFar() {
+        return right + wrong;
+    }
+
     static void close() {
         System.out.println(right + " answers as due, " + wrong + " not");
         if (wrong != 0 || right == 0) {
