@@ -48,6 +48,7 @@ public final class ActsEdgesTest {
         Edge.sentence("How many: 0 WORDS, 1 the MINUTE, 2 WORDS of THE SENTENCE, 3 DECREES of both, "
             + "4 how often the CHAIN went over, 5 L, 6 SEEN, 7 that can be UNDONE, 8 KEPT, 9 letters of THE TEXT. BAD.",
             ActsEdgesTest::count);
+        Edge.sentence("BAD: a number is none that is told (WORDS: such as there are; MAYORS 0, 1).", ActsEdgesTest::suchAsThereAre);
         Edge.sentence("Of several the first; nothing changes then.", ActsEdgesTest::ofSeveral);
     }
 
@@ -428,6 +429,35 @@ public final class ActsEdgesTest {
         }
         Edge.counts(Boroughs.midway().play(), 7, 5, 2, 1, 1, 2, 2, 5, 1, 6);
         Edge.counts(Story.of("w0,0;l1;").play(), 1, 0, 0, 0, 0, 1, 0, 0, 0, 8);
+    }
+
+    /** The last word there is, and the one next to it, for every call that takes a word. */
+    private static void suchAsThereAre() {
+        for (int words = 1; words <= 10; words++) {
+            // A borough of more words ahead of it leaves none of them behind.
+            Story story = Story.of(Boroughs.OF_200_LETTERS).wipe().write("w2,3;".repeat(words)).then(TwoMayors::lay);
+            if (words > 1) {
+                takenAsWord(story.play(), words - 2, true);
+            }
+            takenAsWord(story.play(), words - 1, true);
+            takenAsWord(story.play(), words, false);
+            takenAsWord(story.play(), -1, false);
+        }
+        for (int m = -1; m <= 2; m++) {
+            boolean is = m == 0 || m == 1;
+            Edge.due("mayor(" + m + ", 3)", new TwoMayors().mayor(m, 3), is ? m == 0 ? 24 : 10 : BAD);
+            Edge.due("learn(" + m + ", 0)", new TwoMayors().learn(m, 0), is ? 1 : BAD);
+        }
+    }
+
+    private static void takenAsWord(TwoMayors x, int w, boolean is) {
+        Edge.due("word(" + w + ", 1)", x.word(w, 1), is ? 3 : BAD);
+        Edge.due("learn(1, " + w + ")", x.learn(1, w), is ? 1 : BAD);
+        Edge.due("safe(" + w + ", 0)", x.safe(w, 0), is ? w : BAD);
+        Edge.due("lure(" + w + ", -1)", x.lure(w, -1), is ? NONE : BAD);
+        Edge.due("sitting(" + w + ")", x.sitting(w), is ? 2 : BAD);
+        Edge.due("seen(" + w + ", 0)", x.seen(w, 0), is ? 1 : BAD);
+        Edge.due("say(" + w + ")", x.say(w), is ? 1 : BAD);
     }
 
     /** Where more than one answer could be: the one that is told ahead. */

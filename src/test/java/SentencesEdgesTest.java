@@ -45,6 +45,8 @@ public final class SentencesEdgesTest {
         Edge.sentence("if the other can FINISH, and (DRAW by 64, cut) modulo 3 is 0, he does; else, if the last WORD is a STOP, "
             + "and (DRAW by 64, cut) modulo 3 is 1, THE SENTENCE is ENDED; else WORD DRAW modulo as many is said, if it can be; "
             + "else it is DROPPED, if it has a WORD", SentencesEdgesTest::stepByStep);
+        Edge.sentence("DRAW being ((x times x) modulo 65521) by 2, cut, x 7919 z, 6151 (the time, 0 first) and 1 together",
+            SentencesEdgesTest::draws);
         Edge.sentence("who has the CHAIN then; DECREES of both together in all; what MAYOR 0 has GAINED in all less what 1 has, and 500.",
             SentencesEdgesTest::inAll);
     }
@@ -412,6 +414,26 @@ public final class SentencesEdgesTest {
         councils("12 said and ended", full.say(0, 0), 1, 1, 0, 1, 608);
         councils("12 said and finished", full.say(0, 0).learn(1, 0), 0, 1, 1, 1, 383);
         councils("none that can be said but at first", Story.of("w0,9;"), 0, 60, 0, 0, 500);
+    }
+
+    /** The answers were reckoned by another program, in another language. */
+    private static void draws() {
+        // From z = 6 on x times x is more than an int holds, for z = 5 behind two times; it is always less than a long holds.
+        // The greatest draw there is, 32759, comes first for 3653 and 7192; for 8058 the second draw is 0.
+        int[][] atFirst = {{5, 2, 1, 1, 494}, {5, 3, 1, 1, 494}, {5, 60, 0, 6, 511}, {6, 1, 0, 0, 500}, {6, 10, 1, 1, 497},
+            {6, 60, 1, 7, 500}, {3653, 10, 0, 1, 504}, {3653, 60, 1, 8, 481}, {7192, 10, 0, 1, 503}, {7192, 60, 0, 10, 513},
+            {8058, 4, 0, 1, 504}, {8058, 60, 1, 11, 487}};
+        for (int[] c : atFirst) {
+            councils("at first", Story.ofNew(), c[0], c[1], c[2], c[3], c[4]);
+        }
+        // Ten stops, none behind another: their worth tells which one was drawn.
+        Story stops = Story.of("w2,0;w2,1;w2,2;w2,3;w2,4;w2,5;w2,6;w2,7;w2,8;w2,9;");
+        int[][] ofTen = {{5, 10, 0, 1, 508}, {5, 60, 0, 10, 554}, {6, 4, 0, 1, 500}, {6, 60, 0, 10, 542}, {3653, 2, 0, 1, 509},
+            {3653, 4, 0, 2, 517}, {3653, 60, 0, 11, 542}, {7192, 60, 0, 9, 531}, {8058, 4, 0, 1, 502}, {8058, 60, 0, 13, 543},
+            {0, 60, 0, 11, 547}, {9999, 20, 0, 2, 510}, {9999, 60, 0, 9, 544}};
+        for (int[] c : ofTen) {
+            councils("ten stops", stops, c[0], c[1], c[2], c[3], c[4]);
+        }
     }
 
     private static void inAll() {
