@@ -1,9 +1,15 @@
 import java.io.IOException;
+import java.lang.reflect.Array;
 import java.lang.reflect.Field;
 import java.lang.reflect.Method;
 import java.lang.reflect.Modifier;
 import java.nio.file.Files;
 import java.nio.file.Path;
+import java.util.ArrayDeque;
+import java.util.Collections;
+import java.util.Deque;
+import java.util.IdentityHashMap;
+import java.util.Set;
 import java.util.TreeSet;
 import java.util.regex.Matcher;
 import java.util.regex.Pattern;
@@ -17,15 +23,21 @@ public final class FaceTest {
         "\\bassert\\b", "->", "::", "\\bimport\\b", "\\bpackage\\b", "\\bprotected\\b", "\\bSystem\\.(?!arraycopy)", "\\bnew \\w+\\([^)]*\\) *\\{",
         "\\bstatic *\\{", "Exact\\b", "\\b(equals|hashCode|toString)\\("};
 
+    /** A constructor has a name, but no type ahead of it. */
+    private static final String CONSTRUCTOR = " +(public )?[A-Z]\\w*\\(.*";
+    /** So few that thousands of objects fit into the one room of a run. */
+    private static final int MOST_MADE = 200, MOST_HELD = 3000;
+
     private FaceTest() {
     }
 
-    public static void main(String[] args) throws IOException {
+    public static void main(String[] args) throws IOException, IllegalAccessException {
         face();
         String source = Files.readString(Path.of("src/main/java/TwoMayors.java"));
         String code = source.replaceAll("(?s)/\\*.*?\\*/", "").replaceAll("//[^\n]*", "").replaceAll("\"[^\"\n]*\"", "\"\"");
         words(code);
         methods(code);
+        room();
         Check.close();
     }
 
@@ -99,12 +111,51 @@ public final class FaceTest {
                 indent = head.group(1);
                 found++;
                 due(lines[i].trim() + " takes 7 at most", head.group(2).split(",").length <= 7);
+            } else if (start >= 0 && lines[i].matches(".*\\bnew\\b.*")) {
+                due(lines[start].trim() + " makes none, as calls may be many: " + lines[i].trim(), lines[start].matches(CONSTRUCTOR));
             } else if (start >= 0 && lines[i].equals(indent + "}")) {
                 due(lines[start].trim() + " has 60 lines at most", i - start < 60);
                 start = -1;
             }
         }
         due("methods were found: " + found, found > 60);
+    }
+
+    /** What an object holds; as only constructors make anything, it is all that is ever made for it. */
+    private static void room() throws IllegalAccessException {
+        Set<Object> met = Collections.newSetFromMap(new IdentityHashMap<>());
+        Deque<Object> ahead = new ArrayDeque<>();
+        ahead.add(new TwoMayors());
+        int held = 0;
+        while (!ahead.isEmpty()) {
+            Object one = ahead.remove();
+            if (met.add(one)) {
+                held += parts(one, ahead);
+            }
+        }
+        due("an object is made of " + met.size() + " objects and arrays", met.size() > 1 && met.size() <= MOST_MADE);
+        due("an object holds " + held + " fields and elements", held > 1 && held <= MOST_HELD);
+    }
+
+    private static int parts(Object one, Deque<Object> ahead) throws IllegalAccessException {
+        if (one.getClass().isArray()) {
+            int length = Array.getLength(one);
+            for (int i = 0; i < length && !one.getClass().getComponentType().isPrimitive(); i++) {
+                ahead.add(Array.get(one, i));
+            }
+            return length;
+        }
+        int held = 0;
+        for (Field f : one.getClass().getDeclaredFields()) {
+            if (!Modifier.isStatic(f.getModifiers())) {
+                held++;
+                f.setAccessible(true);
+                if (!f.getType().isPrimitive()) {
+                    ahead.add(f.get(one));
+                }
+            }
+        }
+        return held;
     }
 
     private static void due(String what, boolean so) {
